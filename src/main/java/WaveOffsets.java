@@ -41,7 +41,7 @@ public final class WaveOffsets {
 
     public WaveOffsets() {
         road = new Road();
-        search = new Search(road);
+        search = new Search();
         atHand = new Plan();
         timetable = new Timetable();
         arrivals = new Arrivals();
@@ -105,7 +105,7 @@ public final class WaveOffsets {
                 || road.size() < 2 || road.shortestCycle() == 0) {
             return BAD;
         }
-        search.findBest(aim, nodes, atHand);
+        search.findBest(road, aim, nodes, atHand);
         return atHand.cycle;
     }
 
@@ -548,8 +548,8 @@ public final class WaveOffsets {
 
     /** What a row of offsets is worth; a greater score is better. */
     private abstract static class Worth {
-        /** Makes ready for rows of a cycle. */
-        abstract void begin(int cycle);
+        /** Makes ready for a road's rows of a cycle. */
+        abstract void begin(Road road, int cycle);
 
         /**
          * Puts crossing k at its offset of this choice, behind those that were put before it: the
@@ -560,7 +560,6 @@ public final class WaveOffsets {
 
     /** Aim 0: both bands times their weights. */
     private static final class BandWorth extends Worth {
-        private final Road road;
         /** For each crossing, way and choice, when it is open, counted at the way's first crossing. */
         private final long[] openLow = new long[MOST_CROSSINGS * WAYS * LONGEST_CYCLE];
         private final long[] openHigh = new long[MOST_CROSSINGS * WAYS * LONGEST_CYCLE];
@@ -569,20 +568,19 @@ public final class WaveOffsets {
         private final long[] bandHigh = new long[MOST_CROSSINGS * WAYS];
         private final int[] wayWeights = new int[WAYS];
 
-        BandWorth(Road ofRoad) {
-            road = ofRoad;
+        BandWorth() {
         }
 
-        void begin(int cycle) {
+        void begin(Road road, int cycle) {
             for (int way = 0; way < WAYS; way++) {
                 wayWeights[way] = road.weightOf(way);
                 for (int k = 0; k < road.size() && k < MOST_CROSSINGS; k++) {
-                    fillOpen(k, way, cycle);
+                    fillOpen(road, k, way, cycle);
                 }
             }
         }
 
-        private void fillOpen(int k, int way, int cycle) {
+        private void fillOpen(Road road, int k, int way, int cycle) {
             int length = road.openOf(k);
             int start = road.openFrom(k, way, 0, cycle);
             int row = (k * WAYS + way) * LONGEST_CYCLE;
@@ -617,20 +615,20 @@ public final class WaveOffsets {
 
     /** Aim 1: the stops, below 0 because fewer are better. */
     private static final class StopWorth extends Worth {
-        private final Road road;
         /** For each crossing and seconds from the offset before it to its own, the stops between. */
         private final int[] stopsApart = new int[MOST_CROSSINGS * LONGEST_CYCLE];
         /** For each crossing, the stops up to it. */
         private final long[] stopsTo = new long[MOST_CROSSINGS];
         private final int[] offsets = new int[MOST_CROSSINGS];
         private int cycle;
+        private int stepSeconds;
 
-        StopWorth(Road ofRoad) {
-            road = ofRoad;
+        StopWorth() {
         }
 
-        void begin(int newCycle) {
+        void begin(Road road, int newCycle) {
             cycle = newCycle;
+            stepSeconds = road.stepOf();
             for (int k = 1; k < road.size() && k < MOST_CROSSINGS; k++) {
                 for (int apart = 0; apart < cycle && apart < LONGEST_CYCLE; apart++) {
                     stopsApart[k * LONGEST_CYCLE + apart] = road.stopsBefore(k, apart, cycle);
@@ -642,7 +640,7 @@ public final class WaveOffsets {
             if (!within(k, 0, MOST_CROSSINGS - 1)) {
                 return 0;
             }
-            offsets[k] = choice * road.stepOf();
+            offsets[k] = choice * stepSeconds;
             if (k == 0) {
                 stopsTo[k] = 0;
             } else {
@@ -655,22 +653,21 @@ public final class WaveOffsets {
 
     /** Goes through rows of offsets in order and keeps the first of the best. */
     private static final class Search {
-        private final Road road;
-        private final BandWorth bandWorth;
-        private final StopWorth stopWorth;
+        private final BandWorth bandWorth = new BandWorth();
+        private final StopWorth stopWorth = new StopWorth();
         private final int[] row = new int[MOST_CROSSINGS];
         private final long[] rowsBehind = new long[MOST_CROSSINGS];
+        private int size;
         private int cycle;
+        private int choices;
+        private int stepSeconds;
         private long rowsLeft;
         private long bestScore;
 
-        Search(Road ofRoad) {
-            road = ofRoad;
-            bandWorth = new BandWorth(ofRoad);
-            stopWorth = new StopWorth(ofRoad);
+        Search() {
         }
 
-        void findBest(int aim, long nodes, Plan best) {
+        void findBest(Road road, int aim, long nodes, Plan best) {
             Worth worth = aim == WIDEST_BANDS ? bandWorth : stopWorth;
             best.clear();
             best.aim = aim;
@@ -678,15 +675,18 @@ public final class WaveOffsets {
             rowsLeft = nodes;
             for (int c = SHORTEST_CYCLE; c <= LONGEST_CYCLE && rowsLeft > 0; c++) {
                 if (road.tries(c)) {
-                    begin(c);
-                    worth.begin(c);
+                    begin(road, c);
+                    worth.begin(road, c);
                     putFrom(0, worth, best);
                 }
             }
         }
 
-        private void begin(int newCycle) {
+        private void begin(Road road, int newCycle) {
+            size = road.size();
             cycle = newCycle;
+            choices = road.choices(newCycle);
+            stepSeconds = road.stepOf();
             for (int k = 0; k < MOST_CROSSINGS; k++) {
                 rowsBehind[k] = road.rowsBehind(k, newCycle);
             }
@@ -694,21 +694,21 @@ public final class WaveOffsets {
 
         /** Tries all offsets of crossing k and of those behind it, with those before it as put. */
         private void putFrom(int k, Worth worth, Plan best) {
-            if (!road.has(k) || k >= MOST_CROSSINGS) {
+            if (!within(k, 0, MOST_CROSSINGS - 1)) {
                 return;
             }
-            int choices = k == 0 ? 1 : road.choices(cycle);
-            for (int choice = 0; choice < choices && rowsLeft > 0; choice++) {
-                row[k] = choice * road.stepOf();
+            int choicesHere = k == 0 ? 1 : choices;
+            for (int choice = 0; choice < choicesHere && rowsLeft > 0; choice++) {
+                row[k] = choice * stepSeconds;
                 long score = worth.put(k, choice);
                 if (!beats(score, best)) {
                     // No row that begins so can be better: they count as looked at.
                     rowsLeft -= rowsBehind[k];
-                } else if (k < road.size() - 1) {
+                } else if (k < size - 1) {
                     putFrom(k + 1, worth, best);
                 } else {
                     rowsLeft--;
-                    best.set(cycle, road.size(), row);
+                    best.set(cycle, size, row);
                     bestScore = score;
                 }
             }

@@ -572,6 +572,12 @@ public final class PromiseTest {
         due("a wide band: offset", 10, x.offset(1));
         due("a wide band: upper", 3, x.width(0, 0));
         due("a wide band: lower", 4, x.width(0, 1));
+        x.step(1);
+        x.street(0, 1, 119, 1);
+        for (int aim = 0; aim < 2; aim++) {
+            x.run(aim, ALL);
+            due("the last offset of all", 119, x.offset(1));
+        }
     }
 
     private static void arrive() {
