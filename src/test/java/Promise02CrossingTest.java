@@ -128,6 +128,8 @@ public final class Promise02CrossingTest {
         x.crossing(30, 60);
         x.run(0, 1L);
         Check.due("green(2, 2)", 0, x.green(2, 2));
+        Check.due("green(0, 2), as told", 10, x.green(0, 2));
+        Check.due("green(1, 2), as told", 20, x.green(1, 2));
     }
 
     static void newOneHasStreetsOf1SecondAndWeight0() {
@@ -279,6 +281,49 @@ public final class Promise02CrossingTest {
         Check.due("delay(0)", 0, x.delay(0));
         Check.due("bound(2)", -1, x.bound(2));
         Roads.duePairsPlan("change, day, delay", x);
+    }
+
+    static void questionsLeaveThePlan() {
+        WaveOffsets x = Roads.plannedPair();
+        x.proved();
+        x.bound(0);
+        x.offset(0);
+        x.green(0, 0);
+        x.width(0, 0);
+        x.stops(0);
+        x.delay(0);
+        x.command(0, 0);
+        x.fits(0);
+        for (int what = 0; what < 5; what++) {
+            x.count(what);
+        }
+        Roads.duePairsPlan("questions", x);
+    }
+
+    static void questionsWithoutAnAnswerLeaveThePlan() {
+        WaveOffsets x = Roads.plannedPair();
+        Check.due("bound(2)", -1, x.bound(2));
+        Roads.duePairsPlan("bound(2)", x);
+        Check.due("offset(2)", -1, x.offset(2));
+        Roads.duePairsPlan("offset(2)", x);
+        Check.due("green(2, 0)", -1, x.green(2, 0));
+        Roads.duePairsPlan("green(2, 0)", x);
+        Check.due("green(0, 3)", -1, x.green(0, 3));
+        Roads.duePairsPlan("green(0, 3)", x);
+        Check.due("width(2, 0)", -1, x.width(2, 0));
+        Roads.duePairsPlan("width(2, 0)", x);
+        Check.due("stops(2)", -1, x.stops(2));
+        Roads.duePairsPlan("stops(2)", x);
+        Check.due("delay(2)", -1, x.delay(2));
+        Roads.duePairsPlan("delay(2)", x);
+        Check.due("change(0, 1)", -1, x.change(0, 1));
+        Roads.duePairsPlan("change(0, 1)", x);
+        Check.due("command(0, -1)", -1, x.command(0, -1));
+        Roads.duePairsPlan("command(0, -1)", x);
+        Check.due("fits(2)", false, x.fits(2));
+        Roads.duePairsPlan("fits(2)", x);
+        Check.due("count(5)", -1, x.count(5));
+        Roads.duePairsPlan("count(5)", x);
     }
 
     static void arrivalsAndHoursStayWhenThePlanGoes() {

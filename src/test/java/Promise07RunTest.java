@@ -202,6 +202,23 @@ public final class Promise07RunTest {
         Roads.dueFraction("as wide", 1, 4, x.width(0, 0), x.width(0, 1));
     }
 
+    static void longerCycleIsBetterByHoweverLittle() {
+        // 15 of 60 go through with offset 44, and 31 of 120 with offset 88.
+        WaveOffsets x = Roads.crossings(2, 31, 60);
+        x.cycles(60, 120, 60);
+        x.step(44);
+        x.street(0, 1, 88, 1);
+        Check.due("run(0, 200000)", 120, x.run(0, Roads.ALL));
+        Check.due("offset(1)", 88, x.offset(1));
+        Roads.dueFraction("width(0)", 31, 120, x.width(0, 0), x.width(0, 1));
+        // 5 of 60 stop with offset 0, and 9 of 120 with offset 56.
+        x.step(56);
+        x.street(0, 1, 65, 1);
+        Check.due("run(1, 200000)", 120, x.run(1, Roads.ALL));
+        Check.due("offset(1)", 56, x.offset(1));
+        Roads.dueFraction("stops", 3, 40, x.stops(0), x.stops(1));
+    }
+
     static void ofEqualStopsTheLesserCycleIsBetter() {
         WaveOffsets x = Roads.pair();
         x.cycles(60, 120, 60);
@@ -209,6 +226,15 @@ public final class Promise07RunTest {
         x.street(1, 0, 40, 0);
         Check.due("nobody stops in both", 60, x.run(1, Roads.ALL));
         Check.due("offset(1)", 20, x.offset(1));
+        // 5 of 60 stop with offset 0, and 10 of 120 with offset 55.
+        x.step(55);
+        x.street(0, 1, 65, 1);
+        Check.due("as many stop in both", 60, x.run(1, Roads.ALL));
+        Check.due("offset(1)", 0, x.offset(1));
+        Roads.dueFraction("stops", 1, 12, x.stops(0), x.stops(1));
+        x.cycles(120, 120, 1);
+        Check.due("120 alone", 120, x.run(1, Roads.ALL));
+        Roads.dueFraction("as many", 1, 12, x.stops(0), x.stops(1));
     }
 
     static void ofEqualRowsTheLesserOffsetIsBetter() {
@@ -217,6 +243,22 @@ public final class Promise07RunTest {
         for (int aim = 0; aim < 2; aim++) {
             x.run(aim, Roads.ALL);
             Check.due("20 and 30 are as near to 25", 20, x.offset(1));
+        }
+    }
+
+    static void ofEqualRowsALesserOffsetTellsBeforeALaterOne() {
+        // 5 seconds are lost with 10 and 50, and with 20 and 0.
+        for (int aim = 0; aim < 2; aim++) {
+            WaveOffsets x = Roads.crossings(3, 30, 60);
+            x.cycles(60, 60, 1);
+            x.step(10);
+            x.street(0, 1, 15, 1);
+            x.street(1, 2, 40, 1);
+            x.run(aim, Roads.ALL);
+            Check.due("offset(1)", 10, x.offset(1));
+            Check.due("offset(2)", 50, x.offset(2));
+            Roads.dueFraction("width(0)", 5, 12, x.width(0, 0), x.width(0, 1));
+            Roads.dueFraction("stops", 1, 12, x.stops(0), x.stops(1));
         }
     }
 

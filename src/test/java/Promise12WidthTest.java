@@ -107,6 +107,30 @@ public final class Promise12WidthTest {
         due("59, 0, 1, 2, 3", x, 1, 1, 12);
     }
 
+    static void lastSecondsOfTheLongestCycleCount() {
+        WaveOffsets x = Roads.crossings(2, 5, 120);
+        x.step(1);
+        x.street(1, 0, 1, 1);
+        x.run(0, Roads.ALL);
+        Check.due("offset(1)", 119, x.offset(1));
+        due("119, 0, 1, 2, 3", x, 1, 1, 24);
+        x.street(1, 0, 5, 1);
+        x.run(0, Roads.ALL);
+        Check.due("offset(1)", 115, x.offset(1));
+        due("115 .. 119", x, 1, 1, 24);
+    }
+
+    static void middleSecondsOfTheLongestCycleCount() {
+        for (int offset = 56; offset <= 62; offset++) {
+            WaveOffsets x = Roads.crossings(2, 5, 120);
+            x.step(1);
+            x.street(1, 0, 120 - offset, 1);
+            x.run(0, Roads.ALL);
+            Check.due("offset(1)", offset, x.offset(1));
+            due("five from " + offset + " on", x, 1, 1, 24);
+        }
+    }
+
     static void secondsMayGoRoundTheCycleManyTimes() {
         // Five crossings of offset 0, 200 seconds apart: 800 seconds are 0 modulo 10 and 50.
         WaveOffsets x = Roads.crossings(5, 5, 10);
