@@ -354,6 +354,18 @@ public final class Promise07RunTest {
         }
     }
 
+    static void offsetsAreApartByUpToTheLongestCycleLessOne() {
+        int[][] rows = {{0, 119, 0, 119, 0}, {0, 0, 119, 0, 119}, {0, 119, 119, 0, 51}};
+        for (int[] offsets : rows) {
+            WaveOffsets x = Roads.placed(20, 120, 17, offsets);
+            Check.due("run", 120, x.run(1, Roads.ALL));
+            for (int k = 0; k < 5; k++) {
+                Check.due("aim 1: offset(" + k + ")", offsets[k], x.offset(k));
+            }
+            Roads.dueFraction("stops", 0, 1, x.stops(0), x.stops(1));
+        }
+    }
+
     static void shortestCycleIsSearched() {
         for (int aim = 0; aim < 2; aim++) {
             WaveOffsets x = Roads.placed(5, 10, 1, 0, 9, 3);
